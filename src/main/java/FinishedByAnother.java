@@ -870,6 +870,7 @@ public final class FinishedByAnother {
                 return opens < 5 ? poet : opens;
             case DUELLIST:
                 return opens % 2 == 1 ? 9 : grudge;
+            case AUTHOR:
             default:
                 return author;
         }
@@ -888,6 +889,8 @@ public final class FinishedByAnother {
                 return grudge;
             case DUELLIST:
                 return grudge + 4;
+            case AUTHOR:
+            case TIMID:
             default:
                 return author;
         }

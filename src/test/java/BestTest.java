@@ -14,6 +14,8 @@ public final class BestTest {
         hush();
         moves();
         two();
+        pricesOfBribes();
+        afterChanges();
         nothingChanged();
         Due.close("BestTest");
     }
@@ -95,6 +97,8 @@ public final class BestTest {
         Due.is("no more than now", x.bribe(), -9);
         Due.is("one alone", Due.guild("wa50;").bribe(), -9);
         Due.is("nobody", new FinishedByAnother().bribe(), -9);
+        // 6 now, 26 by 1 and 2, as much by 2 and 3
+        Due.is("next to one another", Due.guild("wg00;wg05;wg00;wt05;").bribe(), 12);
         // 0 is silent; 1 2 3 are worth 9 - 1 + 3, but 1 3 2 9 each: the change of 0 and 2 does it first
         FinishedByAnother silent = Due.guild("wa00;wg05;wa00;wt07;s0;");
         Due.is("worth with a silent one", silent.worth(), 11);
@@ -114,6 +118,9 @@ public final class BestTest {
         Due.is("alone", Due.guild("wa00;").ownBribe(0), -9);
         // 0 1 2 with 1 silent: 0 is ended by 2 whichever two change places
         Due.is("only one other writes", Due.guild("wa00;wa00;wa50;s1;").ownBribe(0), -9);
+        // the ring 0 3 2 1: -1 by 3; in the places of 1 and 2 it is 3 by 1, in that of 3 it is 5 by 2
+        FinishedByAnother back = Due.guild("wa00;wa30;wa20;wa50;x13;");
+        Due.is("tried one by one, each from now", back.ownBribe(0), 3);
         // now -1 by 1; with 1 in his place he goes by 2: 3; with 2 in his place by 3: 9
         FinishedByAnother most = Due.guild("wa00;wa50;wa30;wa00;");
         Due.is("now", most.book(0, 2), -1);
@@ -198,11 +205,50 @@ public final class BestTest {
         Due.is("two(3, 0)", x.two(3, 0), -3);
         Due.is("two(3, 3)", x.two(3, 3), -1);
         Due.is("only two", Due.guild("wa50;wa50;").two(0, 1), 0);
-        // two() looks at rings of places: here only the first one's bribe pays
         FinishedByAnother first = Due.guild("wa00;wa00;wa50;wa00;wa00;x12;");
         // the ring 0 2 1 3 4: 0 has -1, 1 has 9; 0 alone behind 1 has 9 - 2
         Due.is("the first one alone", first.two(0, 1), 10);
         Due.is("the other one alone", first.two(1, 0), 1);
+        // 00: 9, 3. 01: -1, 9 - 2. 10: 3 - 2, 1. 11: 3 - 2, 9 - 2
+        Due.is("both", Due.guild("wp03;wd53;wf36;wp86;").two(1, 3), 11);
+        // 00: 7, 1. 01: 1, 7 - 2. 10: 5 - 2, 9. 11: 5 - 2, 7 - 2: one of them always goes on
+        Due.is("no pair stays", Due.guild("wf26;wa11;wg59;wp55;").two(0, 2), -9);
+    }
+
+    /** Asked behind changes that did not go through letters: thoughts begin with what is now. */
+    private static void afterChanges() {
+        FinishedByAnother x = Due.guild("wa00;wa00;wa00;wa00;");
+        x.turn(0, 2, 0);
+        x.turn(1, 3, 0);
+        x.turn(2, 2, 0);
+        x.turn(3, 3, 0);
+        x.styles(0, 5);
+        x.styles(2, 5);
+        x.changes(1, 2);
+        Due.is("bribe()", x.bribe(), 3);
+        x.fameThen(0, 9);
+        Due.is("ownBribe(0)", x.ownBribe(0), 1);
+        x.fameThen(0, 9);
+        Due.is("hush()", x.hush(), 0);
+        x.fameThen(0, 9);
+        Due.is("page(0, 0)", x.page(0, 0), 0);
+        x.fameThen(0, 9);
+        Due.is("two(0, 1)", x.two(0, 1), 1);
+        x.fameThen(0, 60);
+        Due.is("a statement more", Due.told(x, "wa00;"), 1);
+        Due.is("year", x.count(1), 0);
+        Due.is("the style told", x.writer(0, 2), 5);
+        Due.is("the kind told", x.writer(1, 0), 3);
+    }
+
+    /** By authors alone, all opening with 0: an end is worth 9 less twice the figure of who ends. */
+    private static void pricesOfBribes() {
+        // 00: -1, 1. 01: 9, -1 - 2. 10: 1 - 2, 9: the first has no more by it
+        Due.is("as much is not more", Due.guild("wa00;wa00;wa50;wa40;x12;").two(0, 1), 0);
+        // 00: -1, 3. 01: 9, -1 - 2. 10: 3 - 2, 9. 11: 3 - 2, -1 - 2
+        Due.is("more by 4 for 2", Due.guild("wa00;wa00;wa50;wa30;x12;").two(0, 1), 10);
+        // 00: 5, 9. 01: 7, 5 - 2. 10: 9 - 2, 1. 11: 9 - 2, 5 - 2
+        Due.is("as much is stayed with", Due.guild("wa00;wa40;wa20;wa10;").two(1, 3), 11);
     }
 
     private static void nothingChanged() {

@@ -42,6 +42,12 @@ public final class BooksTest {
         Due.is("read(1)", x.read(1), 2);
         Due.is("read(2)", x.read(2), -2);
         Due.is("read(-1)", x.read(-1), -2);
+        FinishedByAnother zero = Due.guild("wa10;wa00;wa50;x01;");
+        // the ring 1 0 2: 0 by 2 is worth -1, 1 by 0 is worth 7, 2 by 1 is worth 9
+        Due.is("0 is worst", zero.read(1), 0);
+        Due.is("0 is farthest", zero.join(), 0);
+        zero.changes(0, 1);
+        Due.is("0 is best", zero.read(0), 0);
         FinishedByAnother alike = Due.guild("wa00;wa00;wa00;wa00;s0;");
         Due.is("of several the least: best", alike.read(0), 1);
         Due.is("of several the least: worst", alike.read(1), 1);
@@ -95,6 +101,7 @@ public final class BooksTest {
         x.hushes(4);
         Due.is("none", x.same(0), 0);
         Due.is("no first", x.same(1), -9);
+        Due.is("next to one another", Due.guild("wa01;wa02;wa02;").same(1), 12);
         Due.is("same(2)", x.same(2), -2);
         Due.is("same(-1)", x.same(-1), -2);
     }

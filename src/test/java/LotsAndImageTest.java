@@ -20,6 +20,7 @@ public final class LotsAndImageTest {
         // each guild begins anew with the fame of now
         Due.is("one alone", Due.guild("wa00;").lots(20, 3, 0), 1000);
         Due.is("at 0", Due.guild("wa00;wa00;s0;s1;f100;").lots(20, 3, 1), 20);
+        Due.is("0 at 0", Due.guild("wa00;wa00;s0;s1;f000;").lots(20, 3, 1), 20);
         Due.is("not at 0", Due.guild("wa00;wa00;s0;s1;f101;").lots(20, 3, 1), 0);
     }
 

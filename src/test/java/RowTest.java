@@ -100,6 +100,16 @@ public final class RowTest {
         x.clear();
         Due.is("nobody ends it: kinds", x.whatIs(0, 0), 0);
         Due.is("nobody ends it: figures", x.whatIs(0, 1), 0);
+        FinishedByAnother ender0 = Due.guild("wg00;wa00;");
+        Due.rowOf(ender0, 50, 55);
+        // his own book 7 by the grudge; he ends that of 0 for nothing
+        Due.is("0 ends it, not so", ender0.whatIs(1, 0), 32);
+        Due.rowOf(ender0, 50, 57);
+        Due.is("0 ends it, so", ender0.whatIs(1, 0), 4);
+        // 0 is silent, and has an ender all the same: his fame stays as it is
+        ender0.hushes(0);
+        Due.rowOf(ender0, 50, 50);
+        Due.is("a silent one's ender", ender0.whatIs(0, 0), 63);
         FinishedByAnother late = Due.guild("wa00;wa00;");
         Due.rowOf(late, 50, 59, 68, 77, 86, 95, 99, 99, 99, 99, 99, 99, 99, 99, 99, 99);
         Due.is("a full row", late.whatIs(0, 0), 1);

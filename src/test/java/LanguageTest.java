@@ -1,0 +1,103 @@
+import java.io.IOException;
+import java.lang.reflect.Constructor;
+import java.lang.reflect.Field;
+import java.lang.reflect.Method;
+import java.lang.reflect.Modifier;
+import java.nio.file.Files;
+import java.nio.file.Path;
+import java.util.ArrayList;
+import java.util.Arrays;
+import java.util.List;
+import java.util.TreeSet;
+
+/** The face that the document tells, and what LANGUAGE.md does not allow. */
+public final class LanguageTest {
+    private static final String FACE = "int letter(int) int guild() int writer(int,int) int place(int) "
+        + "int book(int,int) int changes(int,int) int hushes(int) int styles(int,int) int famed(int,int) "
+        + "int turn(int,int,int) int years(int) int fameThen(int,int) int opensThen(int,int) int worth() "
+        + "int well() int read(int) int famous(int,int) int first(int) int leads(int) int ring(int) int bribe() "
+        + "int ownBribe(int) int page(int,int) int ender(int,int) int hush() int moves(int) int mutual() "
+        + "int chain(int) int same(int) int ending(int) int join() int two(int,int) "
+        + "long censor(int,int,int,int,int) long mean(int) int whoEnded(int) int whatIs(int,int) int row(int) "
+        + "int judge() int clear() int lots(int,int,int) int image() int on() int count(int)";
+
+    public static void main(String[] args) throws IOException {
+        face();
+        insides();
+        words(Files.readString(Path.of("src/main/java/FinishedByAnother.java")));
+        Due.close("LanguageTest");
+    }
+
+    private static void face() {
+        Class<?> c = FinishedByAnother.class;
+        Due.holds("public and final", Modifier.isPublic(c.getModifiers()) && Modifier.isFinal(c.getModifiers()));
+        Constructor<?>[] made = c.getDeclaredConstructors();
+        Due.holds("one public constructor without numbers",
+            made.length == 1 && Modifier.isPublic(made[0].getModifiers()) && made[0].getParameterCount() == 0);
+        TreeSet<String> face = new TreeSet<>();
+        for (Method m : c.getDeclaredMethods()) {
+            if (!Modifier.isPrivate(m.getModifiers())) {
+                face.add(m.getReturnType() + " " + m.getName()
+                    + Arrays.toString(m.getParameterTypes()).replace("[", "(").replace("]", ")").replace(" ", ""));
+                Due.holds(m.getName() + " is public and of an object",
+                    Modifier.isPublic(m.getModifiers()) && !Modifier.isStatic(m.getModifiers()));
+            }
+        }
+        TreeSet<String> due = new TreeSet<>();
+        for (String call : FACE.split("(?<=\\)) ")) {
+            due.add(call);
+        }
+        Due.is("calls of the document", due.size(), 43);
+        Due.holds("the face is " + face, face.equals(due));
+    }
+
+    private static void insides() {
+        List<Class<?>> all = new ArrayList<>(List.of(FinishedByAnother.class.getDeclaredClasses()));
+        Due.holds("at most twelve classes", all.size() < 12);
+        TreeSet<String> names = new TreeSet<>();
+        for (Method m : FinishedByAnother.class.getMethods()) {
+            names.add(m.getName());
+        }
+        for (Class<?> c : all) {
+            Due.holds(c + " is static and not public",
+                Modifier.isStatic(c.getModifiers()) && !Modifier.isPublic(c.getModifiers()));
+        }
+        all.add(FinishedByAnother.class);
+        for (Class<?> c : all) {
+            int fields = 0;
+            for (Field f : c.getDeclaredFields()) {
+                boolean fixed = Modifier.isStatic(f.getModifiers());
+                fields += fixed ? 0 : 1;
+                Due.holds(f + " is private", Modifier.isPrivate(f.getModifiers()));
+                Due.holds(f + " is final, being static", !fixed || Modifier.isFinal(f.getModifiers()));
+            }
+            Due.holds(c + " has at most twenty fields", fields <= 20);
+            for (Method m : c.getDeclaredMethods()) {
+                Due.holds(m + " bears a public name", Modifier.isPublic(m.getModifiers()) || !names.contains(m.getName()));
+                Due.holds(m + " takes at most seven numbers", m.getParameterCount() <= 7);
+                Due.holds(m + " is made by the compiler", !m.isSynthetic());
+            }
+        }
+    }
+
+    private static void words(String source) {
+        String code = source.replaceAll("(?s)/\\*.*?\\*/", " ").replaceAll("//[^\n]*", " ");
+        for (String word : List.of("throw", "throws", "try", "catch", "synchronized", "assert", "import", "package",
+                "equals", "hashCode", "toString", "float", "double", "native", "System", "Random", "Thread", "Object")) {
+            Due.holds("the word " + word, !code.matches("(?s).*\\b" + word + "\\b.*"));
+        }
+        for (String sign : List.of("->", "::", "Exact", "new int[][", "static {", "@")) {
+            Due.holds("the sign " + sign, !code.contains(sign));
+        }
+        for (char c : source.toCharArray()) {
+            if (c != '\n' && (c < ' ' || c > '~')) {
+                Due.holds("the letter " + (int) c, false);
+            }
+        }
+        int length = 0;
+        for (String line : source.split("\n")) {
+            length = line.equals("    }") || line.equals("        }") ? 0 : length + 1;
+            Due.holds("a method of at most some sixty lines: " + line, length <= 70);
+        }
+    }
+}
