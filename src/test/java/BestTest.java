@@ -226,15 +226,15 @@ public final class BestTest {
         x.styles(2, 5);
         x.changes(1, 2);
         Due.is("bribe()", x.bribe(), 3);
-        x.fameThen(0, 9);
+        x.fameThen(0, 5);
         Due.is("ownBribe(0)", x.ownBribe(0), 1);
-        x.fameThen(0, 9);
+        x.fameThen(0, 5);
         Due.is("hush()", x.hush(), 0);
-        x.fameThen(0, 9);
+        x.fameThen(0, 5);
         Due.is("page(0, 0)", x.page(0, 0), 0);
-        x.fameThen(0, 9);
+        x.fameThen(0, 5);
         Due.is("two(0, 1)", x.two(0, 1), 1);
-        x.fameThen(0, 60);
+        x.fameThen(0, 5);
         Due.is("a statement more", Due.told(x, "wa00;"), 1);
         Due.is("year", x.count(1), 0);
         Due.is("the style told", x.writer(0, 2), 5);
@@ -249,6 +249,20 @@ public final class BestTest {
         Due.is("more by 4 for 2", Due.guild("wa00;wa00;wa50;wa30;x12;").two(0, 1), 10);
         // 00: 5, 9. 01: 7, 5 - 2. 10: 9 - 2, 1. 11: 9 - 2, 5 - 2
         Due.is("as much is stayed with", Due.guild("wa00;wa40;wa20;wa10;").two(1, 3), 11);
+        Due.is("by the other, too", Due.guild("wa00;wa40;wa20;wa10;").two(3, 1), 11);
+        // the ring 0 .. 5, 0 has 1 by 1 and 4 has -1 by 5.
+        // 01 (0 4 1 2 3 5): 7, 1 - 2: as much for 4. 10 (1 2 3 4 0 5): -1 - 2, 9. 00 stays
+        Due.is("in a longer ring", Due.guild("wa00;wa40;wa00;wa00;wa10;wa50;").two(0, 4), 0);
+        // the ring 0 .. 5, 1 has -1 by 2 and 4 has 1 by 5.
+        // 01 (0 1 4 2 3 5): 9, -1 - 2. 10 (0 2 3 4 1 5): 1 - 2, 9: as much for 1. 00 stays
+        Due.is("in a longer ring, again", Due.guild("wa00;wa00;wa50;wa00;wa00;wa40;").two(1, 4), 0);
+        // the ring 0 .. 5, 0 has -1 by 1 and 4 has -1 by 5.
+        // 01 (0 4 1 2 3 5): 9, -1 - 2. 10 (1 2 3 4 0 5): -1 - 2, 9. 11 (4 1 2 3 0 5): -1 - 2 each
+        Due.is("the first of a longer ring", Due.guild("wa00;wa50;wa00;wa00;wa00;wa50;").two(0, 4), 0);
+        // the ring 0 .. 5, 1 has -1 by 2, 4 has 3 by 5. 10 (0 2 3 4 1 5): 3 - 2, 9
+        // 01 (0 1 4 2 3 5): 9, -1 - 2. 11 (0 4 2 3 1 5): 3 - 2, -1 - 2
+        Due.is("the first behind the other in a longer ring", Due.guild("wa00;wa00;wa50;wa00;wa00;wa30;").two(1, 4), 10);
+        Due.is("the other behind the first in a longer ring", Due.guild("wa00;wa00;wa50;wa00;wa00;wa30;").two(4, 1), 1);
     }
 
     private static void nothingChanged() {

@@ -6,6 +6,7 @@ public final class LettersTest {
         guilds();
         faultsOfLetters();
         faultsOfStatements();
+        earlierLetters();
         faultsChangeNothing();
         fullLetters();
         Due.close("LettersTest");
@@ -133,6 +134,17 @@ public final class LettersTest {
         faultOf(sixteen + "y40;", -2064);
         Due.is("to year 999", Due.told(new FinishedByAnother(), sixteen + "y39;"), 17);
         faultOf(sixteen + "y39;y01;", -2068);
+    }
+
+    /** Letters that were told earlier are not looked at. */
+    private static void earlierLetters() {
+        FinishedByAnother x = Due.guild("wa00;wa00;s0;");
+        Due.is("nothing told", x.guild(), -1000);
+        Due.is("a letter lacks", Due.told(x, "wa00"), -1004);
+        Due.is("two letters lack", Due.told(x, "wa00;wa0"), -1008);
+        Due.is("two statements", Due.told(x, "s0;s0;"), 2);
+        Due.is("one statement", Due.told(x, "s0;"), 1);
+        Due.is("one of them", x.count(2), 3);
     }
 
     private static void faultsChangeNothing() {
