@@ -5,6 +5,7 @@ public final class BestTest {
 
     public static void main(String[] args) {
         ring();
+        ringAgain();
         ringOfSeveral();
         ringWithSilentOnes();
         bribe();
@@ -71,6 +72,23 @@ public final class BestTest {
             }
         }
         return x.worth();
+    }
+
+    /** What was found earlier, and better, is not looked at. */
+    private static void ringAgain() {
+        FinishedByAnother x = Due.guild("wa00;wa00;wa00;");
+        ringIs(x, 27, 0, 1, 2);
+        for (int w = 0; w < 3; w++) {
+            x.turn(w, 0, 5);
+        }
+        x.changes(0, 2);
+        ringIs(x, -3, 2, 0, 1);
+        FinishedByAnother none = new FinishedByAnother();
+        none.image();
+        Due.told(none, "wa00;wa00;wa00;");
+        ringIs(none, 27, 0, 1, 2);
+        none.on();
+        ringIs(none, 0);
     }
 
     private static void ringOfSeveral() {
@@ -262,6 +280,9 @@ public final class BestTest {
         // the ring 0 .. 5, 1 has -1 by 2, 4 has 3 by 5. 10 (0 2 3 4 1 5): 3 - 2, 9
         // 01 (0 1 4 2 3 5): 9, -1 - 2. 11 (0 4 2 3 1 5): 3 - 2, -1 - 2
         Due.is("the first behind the other in a longer ring", Due.guild("wa00;wa00;wa50;wa00;wa00;wa30;").two(1, 4), 10);
+        // the ring 0 .. 5: 1 has -1 by 2 and 2 has 9 by 3; 10 (0 2 1 3 4 5): 9 - 2, 9; 01 is as it is
+        Due.is("next to one another in a longer ring", Due.guild("wa00;wa00;wa50;wa00;wa00;wa00;").two(1, 2), 10);
+        Due.is("round from the last to the first", Due.guild("wa50;wa00;wa00;wa00;wa00;wa00;").two(5, 0), 10);
         Due.is("the other behind the first in a longer ring", Due.guild("wa00;wa00;wa50;wa00;wa00;wa30;").two(4, 1), 1);
     }
 

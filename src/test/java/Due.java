@@ -1,3 +1,5 @@
+import java.util.Map;
+
 /** What the tests share: telling letters, and counting answers that are not as due. */
 final class Due {
     private static int asked = 0;
@@ -16,6 +18,18 @@ final class Due {
 
     static void holds(String what, boolean so) {
         is(what, so ? 1 : 0, 1);
+    }
+
+    /** All that two objects answered, call by call. */
+    static void same(String when, Map<String, Long> got, Map<String, Long> want) {
+        is(when + ": calls asked", got.size(), want.size());
+        for (Map.Entry<String, Long> due : want.entrySet()) {
+            Long answer = got.get(due.getKey());
+            holds(when + ": " + due.getKey() + " is asked", answer != null);
+            if (answer != null) {
+                is(when + ": " + due.getKey(), answer, due.getValue());
+            }
+        }
     }
 
     static FinishedByAnother guild(String text) {

@@ -1,3 +1,4 @@
+import java.io.DataInputStream;
 import java.io.IOException;
 import java.lang.reflect.Constructor;
 import java.lang.reflect.Field;
@@ -8,6 +9,7 @@ import java.nio.file.Path;
 import java.util.ArrayList;
 import java.util.Arrays;
 import java.util.List;
+import java.util.Set;
 import java.util.TreeSet;
 
 /** The face that the document tells, and what LANGUAGE.md does not allow. */
@@ -21,9 +23,14 @@ public final class LanguageTest {
         + "long censor(int,int,int,int,int) long mean(int) int whoEnded(int) int whatIs(int,int) int row(int) "
         + "int judge() int clear() int lots(int,int,int) int image() int on() int count(int)";
 
+    private static final Set<String> LIBRARY = Set.of("java/lang/Object.<init>", "java/lang/String.length",
+        "java/lang/String.charAt", "java/lang/String.isEmpty", "java/lang/String.indexOf", "java/lang/Math.max",
+        "java/lang/Math.min", "java/lang/Math.abs", "java/lang/Integer.bitCount");
+
     public static void main(String[] args) throws IOException {
         face();
         insides();
+        library();
         words(Files.readString(Path.of("src/main/java/FinishedByAnother.java")));
         Due.close("LanguageTest");
     }
@@ -80,6 +87,51 @@ public final class LanguageTest {
         }
     }
 
+    /** What the compiled classes name: of the library only what LANGUAGE.md lists, and nothing made at run time. */
+    private static void library() throws IOException {
+        List<Class<?>> all = new ArrayList<>(List.of(FinishedByAnother.class.getDeclaredClasses()));
+        all.add(FinishedByAnother.class);
+        for (Class<?> c : all) {
+            Due.holds(c + " is of Object", c.getSuperclass() == Object.class && c.getInterfaces().length == 0);
+            Due.holds(c + " has no package", c.getPackageName().isEmpty());
+            try (DataInputStream in = new DataInputStream(FinishedByAnother.class.getResourceAsStream(c.getName() + ".class"))) {
+                for (String named : named(in)) {
+                    Due.holds(c + " names " + named, named.startsWith("FinishedByAnother") || LIBRARY.contains(named));
+                }
+            }
+        }
+    }
+
+    /** The methods and fields that a class file's pool of constants names, as Class.name. */
+    private static List<String> named(DataInputStream in) throws IOException {
+        in.readLong();
+        int size = in.readUnsignedShort();
+        String[] texts = new String[size];
+        int[] tags = new int[size];
+        int[][] pairs = new int[size][2];
+        for (int i = 1; i < size; i++) {
+            tags[i] = in.readUnsignedByte();
+            switch (tags[i]) {
+                case 1: texts[i] = in.readUTF(); break;
+                case 3: case 4: in.readInt(); break;
+                case 5: case 6: in.readLong(); i++; break;
+                case 7: case 8: pairs[i][0] = in.readUnsignedShort(); break;
+                case 9: case 10: case 11: case 12:
+                    pairs[i][0] = in.readUnsignedShort();
+                    pairs[i][1] = in.readUnsignedShort();
+                    break;
+                default: return List.of("a constant of the kind " + tags[i]);
+            }
+        }
+        List<String> named = new ArrayList<>();
+        for (int i = 1; i < size; i++) {
+            if (tags[i] >= 9 && tags[i] <= 11) {
+                named.add(texts[pairs[pairs[i][0]][0]] + "." + texts[pairs[pairs[i][1]][0]]);
+            }
+        }
+        return named;
+    }
+
     private static void words(String source) {
         String code = source.replaceAll("(?s)/\\*.*?\\*/", " ").replaceAll("//[^\n]*", " ");
         for (String word : List.of("throw", "throws", "try", "catch", "synchronized", "assert", "import", "package",
@@ -97,7 +149,11 @@ public final class LanguageTest {
         int length = 0;
         for (String line : source.split("\n")) {
             length = line.equals("    }") || line.equals("        }") ? 0 : length + 1;
-            Due.holds("a method of at most some sixty lines: " + line, length <= 70);
+            Due.holds("a method of at most some sixty lines: " + line, length <= 60);
+        }
+        for (String line : code.split("\n")) {
+            Due.holds("made once, in a constructor: " + line.trim(),
+                !line.contains("new ") || line.matches(" +private final \\w+ \\w+ = new .*") || line.contains("cells = new int["));
         }
     }
 }

@@ -9,6 +9,10 @@ public final class LettersTest {
         earlierLetters();
         faultsChangeNothing();
         fullLetters();
+        everyLetterAtEveryPlace();
+        everyDigit();
+        everyYear();
+        statementsAsCalls();
         Due.close("LettersTest");
     }
 
@@ -170,5 +174,111 @@ public final class LettersTest {
         Due.is("the 97th is not there", x.guild(), 24);
         Due.is("the end of 96", Due.told(x, "y01;".repeat(23) + "x01w"), -1095);
         Due.is("lacks at the end of 96", Due.told(x, "wa00;y01;y01;y01;".repeat(5) + "wa00;wa00;w"), -1096);
+    }
+
+    /** Each of the 256 letters at each place of each STATEMENT, with nothing and with STATEMENTS ahead. */
+    private static void everyLetterAtEveryPlace() {
+        String digits = "0123456789";
+        String[][] forms = {
+            {"w", "apgtfd", digits, digits, ";"}, {"x", digits, digits, ";"}, {"s", digits, ";"},
+            {"t", digits, digits, ";"}, {"f", digits, digits, digits, ";"}, {"y", digits, digits, ";"}};
+        String[] told = {"wp37;", "x10;", "s1;", "t19;", "f199;", "y60;"};
+        for (String ahead : new String[] {"", "wa00;wd99;", "y01;"}) {
+            for (int form = 0; form < forms.length; form++) {
+                for (int place = 0; place < forms[form].length; place++) {
+                    String text = ahead + told[form].substring(0, place);
+                    for (int c = 0; c < 256; c++) {
+                        boolean first = place == 0 && "wxstfy".indexOf(c) >= 0;
+                        boolean goesOn = first || place > 0 && forms[form][place].indexOf(c) >= 0;
+                        letterBehind(text, c, goesOn, place + 1 == forms[form].length);
+                    }
+                }
+            }
+        }
+    }
+
+    private static void letterBehind(String text, int c, boolean goesOn, boolean last) {
+        int answer = Due.told(new FinishedByAnother(), text + (char) c);
+        String what = "letter " + c + " behind " + text;
+        if (!goesOn) {
+            Due.is(what, answer, -1000 - text.length());
+        } else if (!last) {
+            Due.is(what + ", then the end", answer, -1000 - text.length() - 1);
+        } else {
+            Due.holds(what + " is no fault of letters: " + answer, answer > 0 || answer <= -2000);
+        }
+    }
+
+    /** With each number of WRITERS: which digits name one, and all numbers that a STATEMENT holds. */
+    private static void everyDigit() {
+        for (int size = 0; size <= 7; size++) {
+            String ahead = "wa00;".repeat(size);
+            statement(ahead, "wd99;", size < 7);
+            for (int a = 0; a <= 9; a++) {
+                statement(ahead, "s" + a + ";", a < size);
+                statement(ahead, "f" + a + "00;", a < size);
+                statement(ahead, "f" + a + "99;", a < size);
+                for (int b = 0; b <= 9; b++) {
+                    statement(ahead, "x" + a + b + ";", a < size && b < size && a != b);
+                    statement(ahead, "t" + a + b + ";", a < size);
+                    int years = 10 * a + b;
+                    statement(ahead, "y" + a + b + ";", years >= 1 && years <= 60);
+                }
+            }
+        }
+    }
+
+    private static void statement(String ahead, String statement, boolean goes) {
+        int statements = ahead.length() / 5 + 1;
+        Due.is(ahead + statement, Due.told(new FinishedByAnother(), ahead + statement), goes ? statements : -2000 - ahead.length());
+        // one that names a WRITER who only comes behind it is not as it must be, either
+        if (!goes && statement.charAt(0) != 'w' && statements <= 7) {
+            Due.is(ahead + statement + "wa00;", Due.told(new FinishedByAnother(), ahead + statement + "wa00;"), -2000 - ahead.length());
+        }
+    }
+
+    /** With so many YEARS left till 999, by years() ahead of it and by the STATEMENT ahead of it. */
+    private static void everyYear() {
+        for (int left = 0; left <= 62; left++) {
+            for (int years = 0; years <= 99; years++) {
+                FinishedByAnother x = new FinishedByAnother();
+                for (int i = 0; i < 15; i++) {
+                    x.years(60);
+                }
+                x.years(33);
+                String two = "y" + years / 10 + years % 10 + ";";
+                boolean goes = years >= 1 && years <= Math.min(60, left);
+                int ahead = 66 - left;
+                String first = ahead > 60 ? "y60;y0" + (ahead - 60) + ";" : "y" + ahead / 10 + ahead % 10 + ";";
+                Due.is(left + " left: " + two, Due.told(x, first + two), goes ? first.length() / 4 + 1 : -2000 - first.length());
+                Due.is(left + " left: year", x.count(1), goes ? 999 - left + years : 933);
+            }
+        }
+    }
+
+    /** A STATEMENT changes what the call for it does, and nothing else. */
+    private static void statementsAsCalls() {
+        String guild = "wg05;wt13;wd27;wp40;wf38;x13;s3;y07;";
+        String[][] pairs = {
+            {"x04;", "changes 0 4"}, {"x31;", "changes 3 1"}, {"s0;", "hushes 0"}, {"s3;", "hushes 3"},
+            {"t29;", "styles 2 9"}, {"t40;", "styles 4 0"}, {"f107;", "famed 1 7"}, {"f070;", "famed 0 70"},
+            {"f499;", "famed 4 99"}, {"f300;", "famed 3 0"}, {"y01;", "years 1"}, {"y60;", "years 60"}, {"y35;", "years 35"}};
+        for (String[] pair : pairs) {
+            FinishedByAnother letters = Due.guild(guild + pair[0]);
+            FinishedByAnother calls = Due.guild(guild);
+            Calls.ask(calls, pair[1]);
+            Due.same(pair[0] + " is as " + pair[1], Calls.answers(letters), Calls.answers(calls));
+        }
+        FinishedByAnother twice = Due.guild(guild + "s0;s0;x04;x04;");
+        Due.same("told twice", Calls.answers(twice), Calls.answers(Due.guild(guild)));
+        FinishedByAnother apart = Due.guild("wg05;wt13;wd27;");
+        Due.is("the other half", Due.told(apart, "wp40;wf38;x13;s3;y07;"), 5);
+        Due.same("told in two guilds", Calls.answers(apart), Calls.answers(Due.guild(guild)));
+        // whoever comes is the last in THE RING, has FAME 50 and is WRITING, whatever went ahead of him
+        FinishedByAnother late = Due.guild("wa00;wa00;x01;s0;s1;f000;f100;y60;wd98;");
+        int[] due = {5, 9, 8, 50, 1, 2, -9};
+        for (int what = 0; what <= 6; what++) {
+            Due.is("who comes late: " + what, late.writer(2, what), due[what]);
+        }
     }
 }

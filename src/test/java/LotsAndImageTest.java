@@ -2,7 +2,6 @@
 public final class LotsAndImageTest {
     public static void main(String[] args) {
         lots();
-        lotsByHand();
         image();
         counts();
         Due.close("LotsAndImageTest");
@@ -22,30 +21,6 @@ public final class LotsAndImageTest {
         Due.is("at 0", Due.guild("wa00;wa00;s0;s1;f100;").lots(20, 3, 1), 20);
         Due.is("0 at 0", Due.guild("wa00;wa00;s0;s1;f000;").lots(20, 3, 1), 20);
         Due.is("not at 0", Due.guild("wa00;wa00;s0;s1;f101;").lots(20, 3, 1), 0);
-    }
-
-    /** By another object with the styles told, and draws in longs. */
-    private static void lotsByHand() {
-        String text = "wg31;wd45;wt07;s2;wf92;y13;f005;f305;x03;";
-        for (int z : new int[] {0, 1, -1, 7, 123456789, Integer.MIN_VALUE, Integer.MAX_VALUE}) {
-            FinishedByAnother x = Due.guild(text);
-            long seed = z;
-            int fame = 0;
-            int atNothing = 0;
-            for (int n = 1; n <= 20; n++) {
-                FinishedByAnother y = Due.guild(text);
-                for (int w = 0; w < 4; w++) {
-                    seed = (int) (seed * 1664525L + 1013904223L);
-                    y.styles(w, (int) ((seed & 0x7fffffffL) / 256 % 10));
-                }
-                fame += y.years(10);
-                for (int w = 0; w < 4; w++) {
-                    atNothing += y.writer(w, 3) == 0 ? 1 : 0;
-                }
-                Due.is("lots(" + n + ", " + z + ", 0)", x.lots(n, z, 0), fame);
-                Due.is("lots(" + n + ", " + z + ", 1)", x.lots(n, z, 1), atNothing);
-            }
-        }
     }
 
     private static void image() {

@@ -3,6 +3,7 @@ public final class NowTest {
     public static void main(String[] args) {
         writer();
         enders();
+        endersOfSeven();
         place();
         book();
         endsOfKinds();
@@ -13,6 +14,8 @@ public final class NowTest {
         years();
         gains();
         heldFame();
+        everyFame();
+        byNumbers();
         Due.close("NowTest");
     }
 
@@ -41,6 +44,36 @@ public final class NowTest {
         Due.is("the only one", x.writer(2, 6), 0);
         x.hushes(0);
         Due.is("nobody writes", x.writer(2, 6), -9);
+    }
+
+    /** Whoever of seven is SILENT: the next one WRITING behind each, round from the last to the first. */
+    private static void endersOfSeven() {
+        String ring = "3516240";
+        for (int silent = 0; silent < 128; silent++) {
+            FinishedByAnother x = Due.guild("wa00;wa00;wa00;wa00;wa00;wa00;wa00;");
+            for (int i = 0; i < 7; i++) {
+                int there = x.place(i);
+                if (there != ring.charAt(i) - '0') {
+                    x.changes(there, ring.charAt(i) - '0');
+                }
+            }
+            for (int w = 0; w < 7; w++) {
+                if ((silent >> w & 1) == 1) {
+                    x.hushes(w);
+                }
+            }
+            for (int w = 0; w < 7; w++) {
+                int at = ring.indexOf('0' + w);
+                int ender = -9;
+                for (char next : (ring.substring(at + 1) + ring.substring(0, at)).toCharArray()) {
+                    if (ender == -9 && (silent >> next - '0' & 1) == 0) {
+                        ender = next - '0';
+                    }
+                }
+                Due.is("ender of " + w + " without (bits) " + silent, x.writer(w, 6), ender);
+            }
+            Due.is("writing without (bits) " + silent, x.count(2), 127 - silent);
+        }
     }
 
     private static void place() {
@@ -209,5 +242,57 @@ public final class NowTest {
         FinishedByAnother low = Due.guild("wa04;wa50;f000;");
         low.years(1);
         Due.is("at least 0", low.writer(0, 3), 0);
+    }
+
+    /** From each FAME on, by each WORTH and by each KIND's end: held at 0 and at 99 each time. */
+    private static void everyFame() {
+        int[] worths = {9, 7, 5, 3, 1, -1};
+        int[] more = {0, 1, -2, 0, 1, 2};
+        for (int fame = 0; fame <= 99; fame++) {
+            FinishedByAnother x = Due.guild("wa00;wa00;");
+            for (int figure = 0; figure <= 5; figure++) {
+                x.turn(1, 0, figure);
+                x.famed(0, fame);
+                x.years(1);
+                Due.is(fame + " and " + worths[figure], x.writer(0, 3), held(fame + worths[figure]));
+            }
+            FinishedByAnother y = Due.guild("wa00;wa00;wa00;s2;");
+            for (int kind = 0; kind <= 5; kind++) {
+                y.turn(1, kind, 0);
+                // the ender's number is the greater: he ends first, then his own book is read
+                y.turn(0, 0, 5);
+                y.famed(1, fame);
+                y.years(1);
+                Due.is(fame + " by kind " + kind + ", and -1", y.writer(1, 3), held(held(fame + more[kind]) - 1));
+                y.turn(1, 0, 5);
+                y.turn(0, kind, 0);
+                y.famed(0, fame);
+                y.years(1);
+                Due.is(fame + " and -1, by kind " + kind, y.writer(0, 3), held(held(fame - 1) + more[kind]));
+            }
+        }
+    }
+
+    private static int held(int fame) {
+        return fame < 0 ? 0 : fame > 99 ? 99 : fame;
+    }
+
+    /** Books are read by numbers, not as they stand in THE RING. */
+    private static void byNumbers() {
+        // the ring is 2 1 0: book 0 by 2 ahead of book 2 by 1
+        FinishedByAnother x = Due.guild("wa00;wa00;wg00;x02;f299;");
+        Due.is("ender of 0", x.writer(0, 6), 2);
+        x.years(1);
+        Due.is("2 loses 2, then has 9", x.writer(2, 3), 99);
+        // the ring is 1 2 0: book 0 by 1 ahead of book 1 by 2
+        FinishedByAnother y = Due.guild("wa00;wg00;wa00;x01;x02;f199;");
+        Due.is("ender of 0 then", y.writer(0, 6), 1);
+        y.years(1);
+        Due.is("1 loses 2, then has 9", y.writer(1, 3), 99);
+        // the ring is 2 0 1: book 1 by 2 ahead of book 2 by 0; book 0 by 1
+        FinishedByAnother z = Due.guild("wg00;wa00;wa00;x02;x01;f099;f100;");
+        Due.is("ender of 2", z.writer(2, 6), 0);
+        z.years(1);
+        Due.is("0 has 9 at 99, then loses 2", z.writer(0, 3), 97);
     }
 }
