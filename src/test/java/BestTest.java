@@ -16,6 +16,7 @@ public final class BestTest {
         moves();
         two();
         pricesOfBribes();
+        seven();
         afterChanges();
         nothingChanged();
         Due.close("BestTest");
@@ -318,5 +319,33 @@ public final class BestTest {
         }
         state[28] = x.count(1);
         return state;
+    }
+
+    /** With the greatest number of WRITERS, the last of whom is asked for and answered. */
+    private static void seven() {
+        // authors alone, all opening with 0: 0 ends the book of 6 at -1, 2 would at 9, the others at 7
+        FinishedByAnother x = Due.guild("wa50;wa10;wa00;wa10;wa10;wa10;wa10;");
+        Due.is("the ring stays", x.ring(-1), 43);
+        for (int i = 0; i < 7; i++) {
+            Due.is("ring(" + i + ") of seven", x.ring(i), i);
+            Due.is("moves(" + i + ") of seven", x.moves(i), i);
+        }
+        Due.is("all rings are alike", x.bribe(), -9);
+        Due.is("own bribe of 6", x.ownBribe(6), 1);
+        Due.is("own bribe of 0", x.ownBribe(0), 1);
+        Due.is("best ender of 6", x.ender(6, 0), 2);
+        Due.is("0 spoils more than his own is worth", x.hush(), 0);
+        x.turn(6, 0, 0);
+        x.turn(2, 0, 1);
+        Due.is("best ender of 0", x.ender(0, 0), 6);
+        // 00: -1, 7. 01 (0 2 3 4 5 6 1): 7, -1 - 2. 10 (0 1 6 2 3 4 5): 7 - 2, 9. 11 (0 6 2 3 4 5 1): 7 - 2, -1 - 2
+        Due.is("two(6, 1)", x.two(6, 1), 10);
+        Due.is("two(1, 6)", x.two(1, 6), 1);
+        // grudge 5 ends what opens with 5, timid 6 what opens with 0: 43, and 63 if these two change places
+        FinishedByAnother last = Due.guild("wa00;wa00;wa00;wa03;wa05;wg00;wt00;");
+        Due.is("worth of it", last.worth(), 43);
+        Due.is("the last two", last.bribe(), 56);
+        ringIs(last, 63, 0, 1, 2, 3, 4, 6, 5);
+        Due.is("without the last one", Due.guild("wa00;wa00;wa00;wa00;wa00;wa00;wa50;").hush(), 6);
     }
 }

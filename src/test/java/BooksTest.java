@@ -9,6 +9,7 @@ public final class BooksTest {
         same();
         ending();
         join();
+        seven();
         Due.close("BooksTest");
     }
 
@@ -128,5 +129,37 @@ public final class BooksTest {
         x.hushes(1);
         Due.is("alone", x.join(), -9);
         Due.is("nobody", new FinishedByAnother().join(), -9);
+    }
+
+    private static void seven() {
+        FinishedByAnother x = Due.guild("wa00;wa00;wa00;wa00;wa00;wa00;wa00;");
+        Due.is("worth of seven", x.worth(), 63);
+        Due.is("well, all seven", x.well(), 127);
+        Due.is("how many are well", x.count(5), 7);
+        Due.is("twos that open alike", x.same(0), 21);
+        Due.is("the first two of seven", x.same(1), 1);
+        Due.is("all end with 0", x.ending(0), 7);
+        // the book of 6 is ended by the first in the ring
+        x.turn(0, 0, 5);
+        Due.is("the last one's is worst", x.read(1), 6);
+        Due.is("the last one's is farthest", x.join(), 6);
+        Due.is("without the last one's", x.well(), 63);
+        Due.is("all worth then", x.worth(), 53);
+        for (int w = 1; w < 7; w++) {
+            x.turn(w, 0, 5);
+        }
+        x.turn(0, 0, 0);
+        Due.is("the last one's is best", x.read(0), 6);
+        Due.is("the last one's alone", x.well(), 64);
+        for (int w = 0; w < 7; w++) {
+            x.styles(w, w < 5 ? w : 9);
+        }
+        Due.is("the last two open alike", x.same(1), 56);
+        Due.is("only they", x.same(0), 1);
+        for (int w = 0; w < 5; w++) {
+            x.hushes(w);
+        }
+        Due.is("they end each other", x.mutual(), 1);
+        Due.is("chain of the last two", x.chain(6), 2);
     }
 }

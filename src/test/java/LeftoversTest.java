@@ -7,7 +7,7 @@ import java.util.List;
  */
 public final class LeftoversTest {
     private static final String[] GUILDS = {
-        "", "wa55;", "wa30;wa50;", "wf26;wa11;wg59;wp55;", "wa03;wa03;wa53;wa03;s0;s1;", "wg05;wt00;wg05;wt00;x12;",
+        "", "wa55;", "wa30;wa50;", "wa00;wa00;wa50;", "wf26;wa11;wg59;wp55;", "wa03;wa03;wa53;wa03;s0;s1;", "wg05;wt00;wg05;wt00;x12;",
         "wg05;wt13;wd27;wp40;wf38;x13;s3;y07;f004;f197;", "wg00;wt01;wd02;wp03;wf04;wa05;wa66;y09;x06;s5;f198;"};
     private static final String[] CHANGES = {
         "changes # +", "hushes #", "styles # 4", "famed # 7", "turn # 5 5"};
@@ -20,7 +20,7 @@ public final class LeftoversTest {
             refusedOnes(calls, size);
             changingOnes(calls, size);
             for (String call : calls) {
-                for (int way = 0; way < 4; way++) {
+                for (int way = 0; way < 5; way++) {
                     asIfFresh(guild, way, call);
                 }
             }
@@ -56,7 +56,9 @@ public final class LeftoversTest {
 
     private static void asIfFresh(String guild, int way, String call) {
         FinishedByAnother fresh = made(guild);
-        FinishedByAnother x = made(guild);
+        FinishedByAnother x = way == 4 ? madeByCalls(fresh) : made(guild);
+        tellRow(fresh);
+        tellRow(x);
         switch (way) {
             case 0:
                 toldWithFault(x);
@@ -67,13 +69,47 @@ public final class LeftoversTest {
             case 2:
                 Calls.answers(x);
                 break;
-            default:
+            case 3:
                 x.ring(-1);
+                break;
+            default:
                 break;
         }
         String when = guild + " in way " + way + ": " + call;
         Due.is(when, Calls.ask(x, call), Calls.ask(fresh, call));
         Due.same(when + ", then", Calls.state(x), Calls.state(fresh));
+    }
+
+    /** As the book of 0 is now and a year on, or else that nobody ends it. */
+    private static void tellRow(FinishedByAnother x) {
+        if (x.count(0) == 0 || x.writer(0, 4) == 0 || x.writer(0, 6) < 0) {
+            x.row(10);
+            return;
+        }
+        x.row(x.book(0, 0));
+        x.row(x.book(0, 1));
+        x.row((x.book(0, 0) + 1) % 10);
+    }
+
+    /** As many come with letters, and are made what the others are by calls alone. */
+    private static FinishedByAnother madeByCalls(FinishedByAnother other) {
+        int size = other.count(0);
+        FinishedByAnother x = made("wd99;".repeat(size));
+        if (other.count(1) > 0) {
+            x.years(other.count(1));
+        }
+        for (int w = 0; w < size; w++) {
+            x.turn(w, other.writer(w, 0), other.writer(w, 1));
+            x.styles(w, other.writer(w, 2));
+            x.famed(w, other.writer(w, 3));
+            if (x.place(w) != other.place(w)) {
+                x.changes(x.place(w), other.place(w));
+            }
+            if (other.writer(w, 4) == 0) {
+                x.hushes(w);
+            }
+        }
+        return x;
     }
 
     /** All of it goes ahead of the last STATEMENT, which names somebody who is not there. */

@@ -17,6 +17,9 @@ public final class ModelTest {
     public static void main(String[] args) {
         for (int seed = 0; seed < OBJECTS; seed++) {
             ModelTest test = new ModelTest(seed);
+            if (seed % 4 == 3) {
+                test.tellSeven();
+            }
             for (int round = 0; round < ROUNDS; round++) {
                 test.tellGuild();
                 test.change();
@@ -28,6 +31,20 @@ public final class ModelTest {
 
     private int below(int n) {
         return random.nextInt(n);
+    }
+
+    private void tellSeven() {
+        StringBuilder text = new StringBuilder();
+        for (int w = 0; w < 7; w++) {
+            text.append('w').append("apgtfd".charAt(below(6))).append(below(10)).append(below(10)).append(';');
+        }
+        for (int w = 0; w < 7; w++) {
+            text.append('x').append(w).append((w + 1 + below(6)) % 7).append(';');
+        }
+        for (int w = 0; w < 7; w++) {
+            text.append(below(5) == 0 ? "s" + w + ";" : "");
+        }
+        Due.is("guild of " + text, Due.told(x, text.toString()), m.guild(text.toString()));
     }
 
     private void tellGuild() {

@@ -75,6 +75,14 @@ public final class OddsTest {
         }
         Due.is("mean(0) of 0", x.mean(0), 0);
         Due.is("mean(1) of 0", x.mean(1), 1);
+        FinishedByAnother seven = Due.guild("wa00;wa00;wa00;wa00;wa00;wa00;wa00;");
+        Due.is("mean(0) of seven", seven.mean(0), 50);
+        Due.is("mean(1) of seven", seven.mean(1), 1);
+        seven.famed(6, 99);
+        Due.is("mean(0) of 399 by 7", seven.mean(0), 57);
+        seven.famed(6, 98);
+        Due.is("mean(0) of 398 by 7", seven.mean(0), 398);
+        Due.is("mean(1) of 398 by 7", seven.mean(1), 7);
         Due.is("mean(2)", x.mean(2), REFUSED + 2);
         Due.is("mean(-1)", x.mean(-1), REFUSED + 2);
     }

@@ -5,6 +5,7 @@ public final class RowTest {
         whoEnded();
         whatIs();
         judge();
+        seven();
         Due.close("RowTest");
     }
 
@@ -141,5 +142,28 @@ public final class RowTest {
         Due.is("nobody ends it", x.judge(), -9);
         Due.rowOf(x, 9);
         Due.is("not 9", x.judge(), 0);
+    }
+
+    private static void seven() {
+        FinishedByAnother x = Due.guild("wg00;wt00;wg00;wt00;wg00;wt00;wa40;");
+        Due.is("an empty row, the first aside", x.whoEnded(0), 126);
+        Due.is("an empty row, the last aside", x.whoEnded(6), 63);
+        Due.rowOf(x, 0, 4, 1, 5);
+        Due.is("the last one ended it", x.whoEnded(0), 64);
+        Due.rowOf(x, 5, 0, 5, 0, 5, 4, 0);
+        Due.is("all seven are so", x.judge(), -9);
+        Due.rowOf(x, 5, 0, 5, 0, 5, 4, 1);
+        Due.is("the last is not so", x.judge(), 6);
+        Due.rowOf(x, 5, 0, 5, 0, 5, 4, 0, 10, 10);
+        Due.is("no eighth", x.judge(), 7);
+        for (int w = 0; w < 6; w++) {
+            x.hushes(w);
+        }
+        Due.rowOf(x, 10, 10, 10, 10, 10, 10, 10, 10);
+        Due.is("nobody ends any, and there is no eighth", x.judge(), 7);
+        Due.rowOf(x, 10, 10, 10, 10, 10, 10, 10);
+        Due.is("nobody ends any", x.judge(), -9);
+        Due.rowOf(x, 10, 10, 10, 10, 10, 10, 4);
+        Due.is("the one who is alone", x.judge(), 6);
     }
 }

@@ -6,6 +6,7 @@ public final class YearsTest {
         first();
         leads();
         pastTheLastYear();
+        seven();
         Due.close("YearsTest");
     }
 
@@ -105,5 +106,19 @@ public final class YearsTest {
         // in year 1000 it opens with 0, and the grudge ends it with 0
         Due.is("fameThen(0, 1)", x.fameThen(0, 1), 59);
         Due.is("year stays", x.count(1), 999);
+    }
+
+    private static void seven() {
+        FinishedByAnother x = Due.guild("wa00;wa00;wa00;wa00;wa00;wa00;wa00;f651;");
+        Due.is("the last one leads", x.leads(0), 6);
+        Due.is("all at the greatest: the least leads", x.leads(60), 0);
+        Due.is("the last one is famous", x.famous(6, 51), 0);
+        Due.is("all fame a year later", x.years(1), 6 * 59 + 60);
+        x.famed(6, 0);
+        Due.is("the last one is forgotten", x.first(0), 6);
+        Due.is("now", x.first(1), 0);
+        Due.is("a year on he is not", x.fameThen(6, 1), 9);
+        x.famed(5, 0);
+        Due.is("of the last two the least", x.first(0), 5);
     }
 }
